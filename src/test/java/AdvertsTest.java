@@ -132,6 +132,11 @@ public final class AdvertsTest {
         c.due("40 asked on day 0", x.stopped(7, 1, false), 0);
         c.due("40 not done", x.stopped(7, 1, true), -1);
         c.due("39 asked again", x.stop(7, 1, false), -6);
+        c.due("39 the first paper", x.stop(0, 0, true), -6);
+        c.due("40 the first paper", x.stopped(0, 0, false), -1);
+        c.due("39 the first paper", x.stop(0, 0, false), 1);
+        c.due("40 the first paper", x.stopped(0, 0, true), -1);
+        c.due("40 the first paper", x.stopped(0, 0, false), 0);
         x.days(3);
         c.due("39 did", x.stop(7, 1, true), 2);
         x.days(4);
@@ -146,6 +151,6 @@ public final class AdvertsTest {
         c.due("40 no advert", x.stopped(7, 2, true), -1);
         c.due("40 no advert", x.stopped(7, -1, false), -1);
         c.due("39 refused", x.status(11), 4);
-        c.due("39 refused", x.status(16), 4);
+        c.due("39 refused", x.status(16), 5);
     }
 }

@@ -135,6 +135,21 @@ public final class ClaimsTest {
         Check.rule(x, 0, "b:l=1");
         c.due("24 as of then", x.bars(0, 0, 4, 5), 0);
         c.due("24 as of now", x.bars(0, 0, 5, 5), -1);
+        takenBackByTheFirst();
+    }
+
+    /** AS OF and KNOWN are other days, and it is the first phrase that takes back. */
+    private static void takenBackByTheFirst() {
+        AdvertCouncil x = new AdvertCouncil();
+        Check.phrase(x, 3, 1, 0, 20, 8);
+        Check.phrase(x, 1, 1, 5, 0, 1);
+        Check.advert(x, 0, 0, 1);
+        Check.print(x, 0, 1, 8);
+        Check.rule(x, 0, "b:l=1");
+        c.due("24 from day 20 on", x.bars(0, 0, 20, 0), 0);
+        c.due("24 not ahead of it", x.bars(0, 0, 19, 20), -1);
+        x.days(20);
+        c.due("16 by the first phrase", x.claim(0, 0, 5), 1);
     }
 
     private static void claim() {
@@ -159,6 +174,11 @@ public final class ClaimsTest {
         }
         c.due("26", x.decide(0, 0, 7, 0), 0);
         c.due("16 said again", x.claim(0, 0, 7), 1);
+        x.appeal(0, true);
+        x.days(30);
+        Check.advert(x, 2, 0, 1, 2);
+        x.decide(1, 0, 7, 0);
+        c.due("16 said again by a later ruling", x.claim(1, 0, 7), 1);
     }
 
     private static void keep() {

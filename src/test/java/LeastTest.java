@@ -5,6 +5,7 @@ public final class LeastTest {
     public static void main(String[] args) {
         least();
         leastOfSeveral();
+        leastLater();
         leastByAdjacency();
         leastOfTwentyFour();
         leastOfMany();
@@ -53,6 +54,26 @@ public final class LeastTest {
         leastIs(x, "not in force yet", 1, 0, 0);
         x.days(5);
         leastIs(x, "in force", 1, 3, 1 | 8 | 128);
+        x.days(5);
+        c.due("37 in force", Check.judge(x, 1, 0, 3), 0);
+        c.due("37 in force", Check.judge(x, 1, 0, 3, 7), 1);
+    }
+
+    /** All is told later than day 0, in force from then on. */
+    private static void leastLater() {
+        AdvertCouncil x = new AdvertCouncil();
+        x.days(7);
+        Check.phrase(x, 0, 1, 1, 7, 1);
+        Check.phrase(x, 3, 1, 1, 7, 9);
+        Check.advert(x, 0, 0, 1, 2);
+        Check.rule(x, 7, "b:k=0&p=0&l=0");
+        leastIs(x, "later", 0, 1, 1);
+        c.due("37 later", Check.judge(x, 0), 0);
+        c.due("38 later", x.beside(1), 1);
+        Check.proof(x, 0, 1);
+        leastIs(x, "borne out now", 0, 0, 0);
+        c.due("37 borne out now", Check.judge(x, 0), 1);
+        c.due("38 borne out now", x.beside(1), 0);
     }
 
     private static void leastByAdjacency() {

@@ -364,6 +364,10 @@ public final class PanelTest {
         c.due("34 another firm", x.step(1), 0);
         x.decide(1, 0, 7, 0);
         c.due("34 another firm", x.step(1), 1);
+        AdvertCouncil one = panel(100);
+        Check.advert(one, 0, 0, 1);
+        one.decide(0, 0, 7, 0);
+        c.due("34 the first", one.step(0), 1);
         x.kin(1, 0);
         c.due("34 void", x.step(0), 0);
     }

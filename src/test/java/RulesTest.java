@@ -223,6 +223,27 @@ public final class RulesTest {
         c.due("24 not before", later.bars(0, 0, 4, 6), -1);
         c.due("24 not known", later.bars(0, 0, 6, 4), -1);
         everyWho(x);
+        saidAgainAheadOfTime();
+    }
+
+    /** The rule is known on all days that are looked at, so that the ruling's DAY alone tells. */
+    private static void saidAgainAheadOfTime() {
+        AdvertCouncil x = new AdvertCouncil();
+        Check.phrase(x, 0, 1, 1, 0, 1);
+        Check.advert(x, 0, 0, 1);
+        Check.rule(x, 0, "b:a=1");
+        Check.rule(x, 0, "b:p=1");
+        x.seat(0);
+        x.seat(0);
+        x.seat(0);
+        x.days(5);
+        x.decide(0, 0, 7, 0);
+        Check.proof(x, 0, 1);
+        c.due("24 said again", x.bars(0, 0, 5, 5), 0);
+        c.due("24 as of a day before", x.bars(0, 0, 4, 5), 1);
+        c.due("24 known a day before", x.bars(0, 0, 5, 4), -1);
+        x.appeal(0, true);
+        c.due("24 undone", x.bars(0, 0, 5, 5), 1);
     }
 
     private static void everyWho(AdvertCouncil x) {

@@ -63,6 +63,10 @@ public final class ShelvesTest {
         c.due("3 set the last", x.set(7, 59, 5), 1);
         c.due("3 anew", x.row(7, 2, 60), 1);
         c.due("3 all are 0 again", x.element(7, 59), 0);
+        c.due("3 set the first", x.set(7, 0, 5), 1);
+        c.due("3 anew", x.row(7, 2, 60), 1);
+        c.due("3 all are 0 again", x.element(7, 0), 0);
+        c.due("6 none behind sixty", x.element(7, 60), 0);
         c.due("3 a failed row leaves what was", x.row(7, 0, 61), -7);
         c.due("3 still sort 2", x.holds(7), 102);
     }
