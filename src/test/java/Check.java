@@ -1,6 +1,8 @@
 /** Counts the answers that are not due, and makes the rows that tests need. */
 final class Check {
     private final String name;
+    private String sentence = "";
+    private int sentences = 0;
     private int looks = 0;
     private int wrong = 0;
 
@@ -8,16 +10,23 @@ final class Check {
         this.name = name;
     }
 
+    /** What is due from here on is due by these words of the document: a promise's number, or T1 to T5. */
+    void sentence(String where, String words) {
+        sentence = where + " \"" + words + "\": ";
+        sentences++;
+    }
+
     void due(String call, long got, long want) {
         looks++;
         if (got != want) {
             wrong++;
-            System.out.println(name + ": " + call + " answered " + got + ", due is " + want);
+            System.out.println(name + ": " + sentence + call + " answered " + got + ", due is " + want);
         }
     }
 
     void end() {
-        System.out.println(name + ": " + looks + " answers, " + wrong + " not as due");
+        String of = sentences > 0 ? sentences + " sentences, " : "";
+        System.out.println(name + ": " + of + looks + " answers, " + wrong + " not as due");
         if (wrong > 0 || looks == 0) {
             System.exit(1);
         }

@@ -23,6 +23,9 @@ public final class FaceTest {
         + "int least(int) int leastSet() int judge(int,int) int beside(int) int stop(int,int,boolean) "
         + "int stopped(int,int,boolean) int status(int)";
 
+    private static final List<String> IMPORTS =
+        List.of("java.util.ArrayList", "java.util.Arrays", "java.util.Iterator", "java.util.List");
+
     private static final Check c = new Check("FaceTest");
 
     public static void main(String[] args) throws IOException {
@@ -55,7 +58,8 @@ public final class FaceTest {
         }
         for (Class<?> inside : AdvertCouncil.class.getDeclaredClasses()) {
             for (Method method : inside.getDeclaredMethods()) {
-                c.due("no twin " + method, publicNames.contains(method.getName()) ? 1 : 0, 0);
+                boolean twin = Modifier.isPrivate(method.getModifiers()) && publicNames.contains(method.getName());
+                c.due("no private twin " + method, twin ? 1 : 0, 0);
             }
         }
         Constructor<?>[] made = AdvertCouncil.class.getDeclaredConstructors();
@@ -68,9 +72,13 @@ public final class FaceTest {
         for (Field field : AdvertCouncil.class.getDeclaredFields()) {
             boolean isNone = field.getName().equals("NONE");
             c.due(field + " is private", Modifier.isPrivate(field.getModifiers()) ? 0 : 1, isNone ? 1 : 0);
+            if (isNone) {
+                c.due("NONE", field.getModifiers(), Modifier.PUBLIC | Modifier.STATIC | Modifier.FINAL);
+                c.due("NONE is an int", field.getType() == int.class ? 1 : 0, 1);
+            }
         }
         Class<?>[] insides = AdvertCouncil.class.getDeclaredClasses();
-        c.due("some twelve classes in the file", insides.length <= 11 ? 1 : 0, 1);
+        c.due("some twelve classes in the file", insides.length <= 12 ? 1 : 0, 1);
         looked(AdvertCouncil.class);
         for (Class<?> inside : insides) {
             c.due(inside + " is static", Modifier.isStatic(inside.getModifiers()) ? 1 : 0, 1);
@@ -93,14 +101,16 @@ public final class FaceTest {
 
     private static void text(String whole) {
         String code = whole.replaceAll("(?s)/\\*.*?\\*/", " ").replaceAll("//[^\n]*", " ");
-        String banned = "throw|throws|try|catch|synchronized|assert|package|System\\.(?!arraycopy)|Exact\\b|->|::"
-            + "|hashCode|toString|protected|while \\(true|\\bObject\\b|record |instanceof";
-        Matcher found = Pattern.compile("\\b(" + banned + ")").matcher(code.replaceAll("\"[^\"\n]*\"", "\"\""));
+        // the arrow of a case is no lambda's
+        code = code.replaceAll("(case [^:;{}]*|default )->", "$1:");
+        String banned = "\\b(throw|throws|try|catch|synchronized|assert|package|protected|hashCode|Object)\\b"
+            + "|System\\.(?!arraycopy)|Exact\\b|->|::|while \\(true";
+        Matcher found = Pattern.compile(banned).matcher(code.replaceAll("\"[^\"\n]*\"", "\"\""));
         c.due("a banned word", found.find() ? found.start() + 1 : 0, 0);
         c.due("a sign that is none of 1 to 127", whole.chars().filter(n -> n < 1 || n > 127).count(), 0);
         Matcher imports = Pattern.compile("import (.*);").matcher(code);
         while (imports.find()) {
-            c.due("import " + imports.group(1), imports.group(1).equals("java.util.ArrayList") ? 1 : 0, 1);
+            c.due("import " + imports.group(1), IMPORTS.contains(imports.group(1)) ? 1 : 0, 1);
         }
         int start = 0;
         String[] lines = whole.split("\n");
