@@ -7,6 +7,8 @@ public final class AdvertsBoundsTest {
         firmsEverywhere();
         numbers();
         fullBehind();
+        lastOfAll();
+        oneBehindAll();
         media();
         words();
         wordsAsTold();
@@ -97,6 +99,69 @@ public final class AdvertsBoundsTest {
         c.due("the last WORDS behind it", x.about(23, 2), 1);
         c.due("the last can be asked", x.saw(23, 1, 0), 1);
         c.due("the one behind it can't", x.saw(24, 1, 0), -1);
+    }
+
+    /** 24 ADVERTS of one CLAIM each, all BARRED; the last is of FIRM 11 in MEDIUM 5. */
+    private static AdvertCouncil twentyFour() {
+        AdvertCouncil x = new AdvertCouncil();
+        Check.phrase(x, 0, 1, 1, 0, 1);
+        Check.row(x, 0, 0, 1);
+        for (int n = 0; n < 24; n++) {
+            x.advert(n / 2, n % 2 == 0 ? 0 : 5, 0);
+        }
+        for (int n = 0; n < 3; n++) {
+            x.seat(0);
+        }
+        Check.rule(x, 0, "b:k=0");
+        return x;
+    }
+
+    private static void lastOfAll() {
+        c.sentence("T1", "24 at most: what each call answers for the last");
+        AdvertCouncil x = twentyFour();
+        c.due("claims", x.claims(23, 0, 0), 1);
+        c.due("claim", x.claim(23, 0, 1), 1);
+        c.due("keep", x.keep(7, 23, 0), 0);
+        c.due("bars", x.bars(23, 0, 0, 0), 0);
+        c.due("decide", x.decide(23, 0, 7, 0), 0);
+        c.due("its FIRM", x.ruling(0, 0), 11);
+        c.due("its MEDIUM", x.ruling(0, 1), 5);
+        c.due("like", x.like(23, 0, 0), 0);
+        c.due("apart", x.apart(0, 23, 0), 0);
+        c.due("binding", x.binding(23, 0), 0);
+        c.due("clash", x.clash(23, 0), 0);
+        c.due("least", x.least(23), 1);
+        c.due("judge", x.judge(23, 0), -6);
+        x.row(0, 0, 1);
+        c.due("judge", x.judge(23, 0), 1);
+        c.due("print", x.print(23, 0, 20), 0);
+        c.due("saw", x.saw(23, 1, 1), 2);
+        c.due("stop", x.stop(7, 23, false), 1);
+        c.due("stopped", x.stopped(7, 23, false), 0);
+        c.due("all of them", x.beside(1), 24);
+    }
+
+    private static void oneBehindAll() {
+        c.sentence("T5", "-1 NOBODY: no such .. ADVERT: one more than the last");
+        AdvertCouncil x = twentyFour();
+        x.decide(0, 0, 7, 0);
+        c.due("claims", x.claims(24, 0, 0), -1);
+        c.due("claim", x.claim(24, 0, 1), -1);
+        c.due("bars", x.bars(24, 0, 0, 0), -1);
+        c.due("like", x.like(24, 0, 0), -1);
+        c.due("apart", x.apart(0, 24, 0), -1);
+        c.due("binding", x.binding(24, 0), -1);
+        c.due("clash", x.clash(24, 0), -1);
+        c.due("stopped", x.stopped(7, 24, false), -1);
+        c.due("no refusals", x.status(11), 0);
+        c.due("keep", x.keep(7, 24, 0), -1);
+        c.due("decide", x.decide(24, 0, 7, 0), -1);
+        c.due("least", x.least(24), -1);
+        c.due("judge", x.judge(24, 0), -1);
+        c.due("print", x.print(24, 0, 20), -1);
+        c.due("saw", x.saw(24, 1, 1), -1);
+        c.due("stop", x.stop(7, 24, false), -1);
+        c.due("refused", x.status(11), 7);
     }
 
     private static void media() {

@@ -30,6 +30,9 @@ public final class ClaimsBoundsTest {
         readNone();
         first24();
         first24ByNumbers();
+        first24Everywhere();
+        readNowEverywhere();
+        struckOnTheLastDay();
         takenBackPlaces();
         takenBackWhole();
         takenBackSubject();
@@ -439,6 +442,75 @@ public final class ClaimsBoundsTest {
         Check.advert(x, 0, 0, 1, 2, 2, 2, 2);
         c.due("just 23", x.claims(2, 0, 0), 23);
         c.due("no 24th", x.claim(2, 23, 3), -1);
+    }
+
+    private static void first24Everywhere() {
+        c.sentence("T2", "The first 24 count: for each call that takes a CLAIM");
+        AdvertCouncil x = readBy(8);
+        Check.advert(x, 0, 0, 1, 1, 1, 1);
+        Check.rule(x, 0, "b:k=0");
+        for (int n = 0; n < 3; n++) {
+            x.seat(0);
+        }
+        c.due("decide on the 24th", x.decide(0, 23, 7, 0), 0);
+        c.due("decide on a 25th", x.decide(0, 24, 7, 0), -1);
+        int[] is = {23, 24, -1};
+        int[] due = {0, -1, -1};
+        for (int n = 0; n < is.length; n++) {
+            c.due("bars " + is[n], x.bars(0, is[n], 0, 0), due[n]);
+            c.due("like " + is[n], x.like(0, is[n], 0), due[n]);
+            c.due("apart " + is[n], x.apart(0, 0, is[n]), due[n]);
+            c.due("binding " + is[n], x.binding(0, is[n]), due[n]);
+            c.due("clash " + is[n], x.clash(0, is[n]), due[n]);
+            c.due("keep " + is[n], x.keep(0, 0, is[n]), due[n]);
+            c.due("claim " + is[n], x.claim(0, is[n], 0), due[n]);
+        }
+        c.due("the NUMBER of the 24th", x.ruling(0, 4), 7);
+    }
+
+    private static void readNowEverywhere() {
+        c.sentence("T5", "as READ NOW: for each call that takes a CLAIM");
+        AdvertCouncil x = new AdvertCouncil();
+        Check.phrase(x, 0, 1, 1, 0, 1);
+        Check.phrase(x, 1, 1, 1, 51, 1);
+        Check.advert(x, 0, 0, 1);
+        for (int n = 0; n < 3; n++) {
+            x.seat(0);
+        }
+        x.days(50);
+        x.decide(0, 0, 7, 0);
+        for (int day = 50; day < 52; day++) {
+            int due = day - 51;
+            c.due("keep", x.keep(0, 0, 1), due == 0 ? 1 : -1);
+            c.due("decide", x.decide(0, 1, 7, 0), due == 0 ? 1 : -1);
+            c.due("binding", x.binding(0, 1), due == 0 ? 1 : -1);
+            c.due("like", x.like(0, 1, 0), due == 0 ? 1 : -1);
+            c.due("clash", x.clash(0, 1), due);
+            c.due("apart", x.apart(0, 0, 1), due == 0 ? 1 : -1);
+            c.due("claim", x.claim(0, 1, 0), due == 0 ? 1 : -1);
+            x.days(1);
+        }
+        x.unphrase(0);
+        c.due("one was STRUCK: the other comes first", x.keep(0, 0, 0), 1);
+        c.due("decide", x.decide(0, 0, 7, 0), 2);
+        c.due("its KIND", x.ruling(2, 2), 1);
+        c.due("binding", x.binding(0, 0), 1);
+        c.due("apart", x.apart(0, 0, 0), 1);
+        c.due("no second", x.like(0, 1, 0), -1);
+    }
+
+    private static void struckOnTheLastDay() {
+        c.sentence("T1", "9,000 at most: TOLD and STRUCK on the last DAY");
+        AdvertCouncil x = told(0, 0);
+        Check.daysOn(x, 9000);
+        c.due("TOLD", Check.phrase(x, 4, 1, 1, 9000, 1), 1);
+        c.due("both", x.claims(0, 9000, 9000), 2);
+        c.due("the DAY ahead", x.claims(0, 8999, 9000), 1);
+        c.due("KNOWN the DAY ahead", x.claims(0, 9000, 8999), 1);
+        c.due("STRUCK", x.unphrase(0), 1);
+        c.due("the other", x.claims(0, 9000, 9000), 1);
+        c.due("both, KNOWN the DAY ahead", x.claims(0, 9000, 8999), 1);
+        c.due("the first, KNOWN the DAY ahead", x.claims(0, 8999, 8999), 1);
     }
 
     /** CLAIM 0 is of SUBJECT 1, CLAIM 1 of 2; what is LEFT of SUBJECT 1 is 8 9. */

@@ -229,6 +229,8 @@ public final class PanelBoundsTest {
         c.due("a 41st", x.decide(0, 0, 7, 0), -7);
         c.due("none of its number", x.ruling(40, 0), -1);
         c.due("none of its number", x.appeal(40, true), -1);
+        c.due("none of its number", x.apart(40, 0, 0), -1);
+        c.due("the last is apart in nothing", x.apart(39, 0, 0), 0);
         c.due("the last", x.appeal(39, true), 1);
         c.due("no room by that", x.decide(0, 0, 7, 0), -7);
         c.due("as many", x.status(5), 40);

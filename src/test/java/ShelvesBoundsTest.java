@@ -32,6 +32,7 @@ public final class ShelvesBoundsTest {
         saysAll();
         saysNumbers();
         saysWhereARowWas();
+        firstAndLastShelf();
         claimAsReadThen();
         c.end();
     }
@@ -454,6 +455,30 @@ public final class ShelvesBoundsTest {
         c.due("NOTHING where NOTHING was", x.keep(House.EMPTY, -1, 0), -1);
         c.due("a ROW again", x.row(House.BYTES, 0, 3), 1);
         same(x, House.BYTES, 0, 0, 0);
+    }
+
+    private static void firstAndLastShelf() {
+        c.sentence("T1", "SHELVES 0 to 7: for each call that takes one");
+        for (int s = 0; s < 8; s += 7) {
+            AdvertCouncil x = new AdvertCouncil();
+            Check.row(x, s, 0, 1);
+            c.due("phrase", x.phrase(s, 1, 2005, 0), 0);
+            c.due("advert", x.advert(0, 0, s), 0);
+            c.due("print", x.print(0, s, 0), 0);
+            c.due("proof", x.proof(0, 2, s), 0);
+            c.due("judge", x.judge(0, s), -6);
+            c.due("copy", x.copy(s, s, 0, 0, 1), 1);
+            Check.text(x, s, "b:k=1");
+            c.due("rule", x.rule(s, 0), 0);
+            c.due("keep", x.keep(s, 0, 0), 1);
+            c.due("holds", x.holds(s), 0);
+            c.due("says", x.says(s, 1), 5);
+            c.due("keep NONE", x.keep(s, -1, 0), -1);
+            c.due("holds", x.holds(s), -1);
+            x.row(s, 0, 1);
+            c.due("judge", x.judge(0, s), 1);
+            c.due("element", x.element(s, 0), 0);
+        }
     }
 
     private static void claimAsReadThen() {
