@@ -3,12 +3,12 @@ import java.lang.management.ManagementFactory;
 /**
  * All calls of a run live in one room of some 600,000 objects and 7.3 million fields and elements, so a council
  * is made small and a call makes little: told by the bytes that the Java machine gives out (an object has 16 of
- * them at least, a field or an element one at least).
+ * them at least, a field or an element one at least). A full council has answered some 290 calls before the 200.
  */
 public final class RoomTest {
-    private static final int CALLS = 512;
+    private static final int CALLS = 200;
     private static final int A_COUNCIL = 16000;
-    private static final int A_RUN = 200000;
+    private static final int A_RUN = 78000;
 
     private static final Check c = new Check("RoomTest");
     private static final com.sun.management.ThreadMXBean GIVEN =
