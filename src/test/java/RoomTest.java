@@ -98,7 +98,7 @@ public final class RoomTest {
         run("apart", x -> x.apart(0, 0, 1));
         run("binding", x -> x.binding(0, 0));
         run("clash", x -> x.clash(0, 0));
-        run("appeal", x -> x.appeal(x.status(5) - 1, true));
+        run("appeal", x -> x.appeal(1, true));
         run("step", x -> x.step(1));
     }
 
